@@ -539,6 +539,14 @@ public final class PromisesTest {
     int thin = make(0, 0, 3, 1);
     tells("a point off a slanted line", x.apart(thin, inner), 20, 1);
     x.clear();
+    int unit = make(0, 0, 1, 0, 1, 1, 0, 1);
+    int right = make(2, 0, 2, 1, 7, 0);
+    int over = make(0, 2, 1, 2, 0, 9);
+    tells("by one in x", x.apart(right, unit), 1, 1);
+    tells("by one in y", x.apart(over, unit), 1, 1);
+    tells("by one in x, the other way", x.apart(unit, right), 1, 1);
+    tells("by one in y, the other way", x.apart(unit, over), 1, 1);
+    x.clear();
     int line = make(0, 0, 6, 4);
     int above = make(2, 3, 0, 8);
     tells("segment to the end of another one", x.apart(line, above), 25, 13);
@@ -639,6 +647,7 @@ public final class PromisesTest {
     due("a point", x.nearest(make(1, 1)), -3);
     due("two", x.nearest(make(1, 1, 4, 5)), 25);
     due("the first two", x.nearest(make(0, 0, 1, 1, 10, 0, 20, 9)), 2);
+    due("the first and the third", x.nearest(make(0, 0, 50, 50, 0, 3, 90, 0)), 9);
     due("the last two", x.nearest(make(0, 0, 10, 0, 20, 9, 21, 11)), 5);
     due("no corners", x.nearest(make(0, 0, 40, 0, 0, 40, 10, 10, 12, 10)), 4);
     due("the greatest", x.nearest(make(-100, -100, 100, 100)), 80000);
@@ -660,6 +669,8 @@ public final class PromisesTest {
     due("the other way", x.within(square, inner), 0);
     int most = make(1, 1, 9, 9, 11, 5);
     due("all but one", x.within(most, square), 0);
+    int first = make(11, 5, 1, 1, 9, 9);
+    due("all but the first", x.within(first, square), 0);
     int line = make(0, 0, 9, 6);
     int part = make(3, 2, 6, 4);
     due("a part of a segment", x.within(part, line), 1);
