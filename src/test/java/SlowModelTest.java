@@ -3,6 +3,7 @@ import java.util.Random;
 /** Runs of chosen calls on the program and on the slow model: each answer, and what is told, must be the same. */
 public final class SlowModelTest {
   private static final int RUNS = 700;
+  private static final int LARGE_RUNS = 300;
   private static final int CALLS = 512;
   private static int wrong = 0;
   private static long calls = 0;
@@ -26,6 +27,7 @@ public final class SlowModelTest {
 
   public static void main(String[] args) {
     for (int run = 0; run < RUNS; run++) new SlowModelTest(run).go();
+    for (int run = RUNS; run < RUNS + LARGE_RUNS; run++) new SlowModelTest(run).goLarge();
     System.out.println(calls + " calls beside the slow model, " + wrong + " answers are not as due");
     if (wrong != 0) System.exit(1);
   }
@@ -41,8 +43,34 @@ public final class SlowModelTest {
       else if (at < 4) due("set", sums.set(), model.set());
       else if (at < built) addPoint();
       else one(random.nextInt(44));
-      calls++;
     }
+  }
+
+  /** Two sets of few points far out, three times as great, where all numbers are greatest. */
+  private void goLarge() {
+    for (int set = 0; set < 2; set++) {
+      due("set", sums.set(), model.set());
+      for (int i = among(1, 5); i > 0; i--) {
+        int x = random.nextInt(3) == 0 ? among(-100, 100) : random.nextBoolean() ? among(97, 100) : among(-100, -97);
+        int y = random.nextInt(3) == 0 ? among(-100, 100) : random.nextBoolean() ? among(97, 100) : among(-100, -97);
+        due("point", sums.point(set, x, y), model.point(set, x, y), set, x, y);
+      }
+    }
+    int[] a = {0, 2, 1, 4};
+    int[] b = {0, 0, 1, 1};
+    for (int i = 0; i < a.length; i++) due("sum", sums.sum(a[i], b[i]), model.sum(a[i], b[i]), a[i], b[i]);
+    for (int set = 3; set <= 5; set += 2) {
+      for (int what = 0; what < 3; what++) due("circle", sums.circle(set, what), model.circle(set, what), set, what);
+      due("width", sums.width(set), model.width(set), set);
+      due("wide", sums.wide(set), model.wide(set), set);
+      due("area", sums.area(set), model.area(set), set);
+      due("grown", sums.grown(set, 6), model.grown(set, 6), set, 6);
+      due("supports", sums.supports(set, 100, -100), model.supports(set, 100, -100), set, 100, -100);
+    }
+    due("meets", sums.meets(3, 5), model.meets(3, 5), 3, 5);
+    due("apart", sums.apart(3, 5), model.apart(3, 5), 3, 5);
+    due("mixed", sums.mixed(3, 5), model.mixed(3, 5), 3, 5);
+    due("within", sums.within(5, 3), model.within(5, 3), 5, 3);
   }
 
   private void empty() {
@@ -176,6 +204,7 @@ public final class SlowModelTest {
   }
 
   private void due(String call, int got, int want, int... with) {
+    calls++;
     if (got != want) say(call, with, "answered " + got + ", due is " + want);
     if (sums.first() != model.first || sums.second() != model.second) {
       say(call, with, "told " + sums.first() + ", " + sums.second()
