@@ -1,9 +1,5 @@
 /** Each promise of the document by its number, with answers worked out by hand. */
-public final class PromisesTest {
-  private static int wrong = 0;
-  private static int promise = 0;
-  private static HullSums x = new HullSums();
-
+public final class PromisesTest extends Checks {
   public static void main(String[] args) {
     newObject();
     clear();
@@ -35,63 +31,7 @@ public final class PromisesTest {
     told();
     noSet();
     farNumbers();
-    System.out.println(wrong == 0 ? "all promises are kept" : wrong + " answers are not as due");
-    if (wrong != 0) System.exit(1);
-  }
-
-  private static void begin(int number) {
-    promise = number;
-    x = new HullSums();
-  }
-
-  private static void due(String call, long got, long want) {
-    if (got != want) {
-      wrong++;
-      System.out.println("promise " + promise + ": " + call + " answered " + got + ", due is " + want);
-    }
-  }
-
-  private static void tells(String call, int got, long first, long second) {
-    due(call, got, 1);
-    due("first() after " + call, x.first(), first);
-    due("second() after " + call, x.second(), second);
-  }
-
-  /** A refusal tells nothing: what was told before stays. */
-  private static void refuses(String call, int got, int want, long first, long second) {
-    due(call, got, want);
-    due("first() after " + call, x.first(), first);
-    due("second() after " + call, x.second(), second);
-  }
-
-  /** A new set of these points, x and y in turn. */
-  private static int make(int... xy) {
-    int set = x.set();
-    for (int i = 0; i + 1 < xy.length; i += 2) due("point", x.point(set, xy[i], xy[i + 1]), 1);
-    return set;
-  }
-
-  /** A set's corners are just these, x and y in turn. */
-  private static void hasCorners(int set, int... xy) {
-    due("corners(" + set + ")", x.corners(set), xy.length / 2);
-    for (int i = 0; i + 1 < xy.length; i += 2) {
-      tells("corner(" + set + ", " + i / 2 + ")", x.corner(set, i / 2), xy[i], xy[i + 1]);
-    }
-  }
-
-  /** 24 corners: the sides are these twelve directions and their opposites. */
-  private static int makeRound() {
-    int[] dx = {1, 3, 2, 1, 1, 1, 0, -1, -1, -1, -2, -3};
-    int[] dy = {0, 1, 1, 1, 2, 3, 1, 3, 2, 1, 1, 1};
-    int set = x.set();
-    int px = 0;
-    int py = -10;
-    for (int i = 0; i < 24; i++) {
-      due("point", x.point(set, px, py), 1);
-      px += i < 12 ? dx[i] : -dx[i - 12];
-      py += i < 12 ? dy[i] : -dy[i - 12];
-    }
-    return set;
+    end();
   }
 
   private static void newObject() {
@@ -706,7 +646,6 @@ public final class PromisesTest {
     x.told(0);
     due("first()", x.first(), 6);
     due("first() again", x.first(), 6);
-    promise = 27;
     due("second()", x.second(), 3);
     due("second() again", x.second(), 3);
     tells("width", x.width(set), 144, 25);
