@@ -428,8 +428,8 @@ public final class BoundariesTest extends Checks {
 
   private static void widthOfPolygons() {
     begin(15, "the least distance of two parallel lines, the hull lying on or between them");
-    tells("along the first side", x.width(make(0, 0, 9, 0, 8, 1, 1, 1)), 1, 1);
-    tells("along the last side", x.width(make(0, 0, 1, 1, 1, 8, 0, 9)), 1, 1);
+    tells("along the first side", x.width(make(0, 0, 9, 0, 5, 1)), 1, 1);
+    tells("along the last side", x.width(make(0, 0, 1, 5, 0, 9)), 1, 1);
     tells("along a side in the middle", x.width(make(0, 0, 2, -9, 1, 9)), 729, 325);
     tells("the least polygon", x.width(make(0, 0, 0, 1, 1, 0)), 1, 2);
     tells("the greatest", x.width(makeGreatest()), 360000, 1);
@@ -730,6 +730,8 @@ public final class BoundariesTest extends Checks {
     touching();
     oneApart();
     oneInTheOther();
+    justBesideAnEnd();
+    of48Corners();
     twoOfNothing();
     farthestApart();
   }
@@ -781,6 +783,28 @@ public final class BoundariesTest extends Checks {
     areApart(line, make(3, 3), 9, 13);
     areApart(line, make(0, 1, 6, 5), 9, 13);
     areApart(line, make(8, 5), 5, 1);
+  }
+
+  private static void justBesideAnEnd() {
+    begin(20, "The least distance of a point of one hull and a point of the other one is told");
+    int line = make(0, 0, 3, 1);
+    // From a place just before the first end, just beyond the other one, right beside both, just between them.
+    areApart(line, make(-1, 2), 5, 1);
+    areApart(line, make(4, -1), 5, 1);
+    areApart(line, make(-1, 3), 10, 1);
+    areApart(line, make(4, -2), 10, 1);
+    areApart(line, make(0, 1), 9, 10);
+    areApart(line, make(3, 0), 9, 10);
+  }
+
+  private static void of48Corners() {
+    begin(20, "The least distance of a point of one hull and a point of the other one is told");
+    int round = makeRound();
+    int touching = makeRound(OTHER_SIDES, 26, -18);
+    int far = makeRound(OTHER_SIDES, 37, -18);
+    tells("the least x", x.supports(far, -1, 0), -20, 1);
+    areApart(round, touching, 0, 1);
+    areApart(round, far, 121, 1);
   }
 
   private static void oneInTheOther() {
@@ -841,6 +865,14 @@ public final class BoundariesTest extends Checks {
     due("beside it", x.holds(one, 1, 0), 0);
     due("above it", x.holds(one, 0, 1), 0);
     due("far from it", x.holds(one, -1000, 1000), 0);
+    for (int far = -9; far <= 9; far += 18) {
+      int other = make(far, far);
+      due("it", x.holds(other, far, far), 1);
+      due("right of it", x.holds(other, far + 1, far), 0);
+      due("left of it", x.holds(other, far - 1, far), 0);
+      due("above it", x.holds(other, far, far + 1), 0);
+      due("below it", x.holds(other, far, far - 1), 0);
+    }
   }
 
   private static void placeOfASegment() {
@@ -852,13 +884,16 @@ public final class BoundariesTest extends Checks {
     due("beyond", x.holds(line, 9, 6), 0);
     due("before", x.holds(line, -3, -2), 0);
     due("off it", x.holds(line, 3, 3), 0);
-    int level = make(0, 5, 6, 5);
-    due("beyond", x.holds(level, 7, 5), 0);
-    due("before", x.holds(level, -1, 5), 0);
-    int down = make(5, 0, 5, 6);
-    due("beyond", x.holds(down, 5, 7), 0);
-    due("before", x.holds(down, 5, -1), 0);
-    due("on it", x.holds(down, 5, 6), 1);
+    for (int far = -9; far <= 9; far += 18) {
+      int level = make(far, far, far + 2, far);
+      due("an end", x.holds(level, far + 2, far), 1);
+      due("beyond", x.holds(level, far + 3, far), 0);
+      due("before", x.holds(level, far - 1, far), 0);
+      int up = make(far, far, far, far + 2);
+      due("an end", x.holds(up, far, far + 2), 1);
+      due("beyond", x.holds(up, far, far + 3), 0);
+      due("before", x.holds(up, far, far - 1), 0);
+    }
   }
 
   private static void placeOfAPolygon() {
@@ -872,6 +907,9 @@ public final class BoundariesTest extends Checks {
     due("just out of the last side", x.holds(flat, -1, 1), 0);
     due("a corner", x.holds(flat, 0, 6), 1);
     due("on the line of a side, beyond", x.holds(flat, 0, 7), 0);
+    int skew = make(0, 0, 5, 2, 0, 5);
+    due("as little inside as can be", x.holds(skew, 2, 1), 2);
+    due("as little outside as can be", x.holds(skew, 3, 1), 0);
   }
 
   private static void placeOfTheGreatest() {
@@ -1015,8 +1053,20 @@ public final class BoundariesTest extends Checks {
     due("a sum that is LARGE", x.mixed(all, all), 1440000);
     // Twice how far the round one reaches away from the three sides, each times its side: 31, 9 and 25.
     due("a sum of 25 points", x.mixed(round, skew), 130);
+    due("a sum of 48 points", x.mixed(round, makeRound(OTHER_SIDES, 0, 0)), twiceAllAcross(ROUND_SIDES, OTHER_SIDES));
     makeEmptyUpTo(8);
     due("8 sets", x.mixed(skew, skew), 6);
+  }
+
+  /** Hulls whose sides are directions and their opposites are made of one parallelogram for each two of these. */
+  private static long twiceAllAcross(int[] some, int[] others) {
+    long all = 0;
+    for (int i = 0; i + 1 < some.length; i += 2) {
+      for (int j = 0; j + 1 < others.length; j += 2) {
+        all += Math.abs(some[i] * others[j + 1] - some[i + 1] * others[j]);
+      }
+    }
+    return 2 * all;
   }
 
   private static void mixedOfNothing() {

@@ -1,5 +1,9 @@
 /** What the tests by hand share: the object they call, answers held against those due, sets of chosen points. */
 abstract class Checks {
+  /** Directions of sides, x and y in turn, from level to level; none of the one is among the other. */
+  static final int[] ROUND_SIDES = {1, 0, 3, 1, 2, 1, 1, 1, 1, 2, 1, 3, 0, 1, -1, 3, -1, 2, -1, 1, -2, 1, -3, 1};
+  static final int[] OTHER_SIDES = {4, 1, 3, 2, 4, 3, 3, 4, 2, 3, 1, 4, -1, 4, -2, 3, -3, 4, -4, 3, -3, 2, -4, 1};
+
   static HullSums x = new HullSums();
   private static int wrong = 0;
   private static int begun = 0;
@@ -67,17 +71,22 @@ abstract class Checks {
     return set;
   }
 
-  /** 24 corners: the sides are these twelve directions and their opposites. */
+  /** 24 corners, 0, -10 one of the two lowest: the greatest x is 9, at y = -2 and -1. */
   static int makeRound() {
-    int[] dx = {1, 3, 2, 1, 1, 1, 0, -1, -1, -1, -2, -3};
-    int[] dy = {0, 1, 1, 1, 2, 3, 1, 3, 2, 1, 1, 1};
+    return makeRound(ROUND_SIDES, 0, -10);
+  }
+
+  /** A set whose corners are reached from the lowest one by these directions and then by their opposites. */
+  static int makeRound(int[] directions, int lowestX, int lowestY) {
     int set = x.set();
-    int px = 0;
-    int py = -10;
-    for (int i = 0; i < 24; i++) {
-      due("point", x.point(set, px, py), 1);
-      px += i < 12 ? dx[i] : -dx[i - 12];
-      py += i < 12 ? dy[i] : -dy[i - 12];
+    int px = lowestX;
+    int py = lowestY;
+    for (int sign = 1; sign >= -1; sign -= 2) {
+      for (int i = 0; i + 1 < directions.length; i += 2) {
+        due("point", x.point(set, px, py), 1);
+        px += sign * directions[i];
+        py += sign * directions[i + 1];
+      }
     }
     return set;
   }

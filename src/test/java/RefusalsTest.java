@@ -75,7 +75,9 @@ public final class RefusalsTest extends Checks {
     due(call, one.applyAsInt(called), want);
     String is = allOf(called);
     String was = allOf(other);
-    if (!is.equals(was)) wrong(call + " was refused, but made " + was + " into " + is);
+    if (!is.equals(was)) {
+      wrong("\"What is refused changes nothing, and tells nothing\": " + call + " made " + was + " into " + is);
+    }
   }
 
   /** All that can be seen of an object; told first, as looking at corners tells. */
