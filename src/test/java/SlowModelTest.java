@@ -1,23 +1,17 @@
 import java.util.Random;
 
-/** Runs of chosen calls on the program and on the slow model: each answer, and what is told, must be the same. */
-public final class SlowModelTest {
-  private static final int RUNS = 700;
+/** Runs of calls drawn by lot, from seeds that stay the same. */
+public final class SlowModelTest extends Beside {
+  private static final int RUNS = 2100;
   private static final int LARGE_RUNS = 300;
-  private static final int CALLS = 512;
-  private static int wrong = 0;
-  private static long calls = 0;
 
   private final Random random;
-  private final HullSums sums = new HullSums();
-  private final SlowModel model = new SlowModel();
-  private final int run;
   private final int reach;
   private final int shape;
   private final int[] middles = new int[16];
 
   private SlowModelTest(int run) {
-    this.run = run;
+    super("run " + run);
     random = new Random(run);
     int[] reaches = {1, 2, 3, 6, 12, 30, 100};
     reach = reaches[run % reaches.length];
@@ -28,19 +22,18 @@ public final class SlowModelTest {
   public static void main(String[] args) {
     for (int run = 0; run < RUNS; run++) new SlowModelTest(run).go();
     for (int run = RUNS; run < RUNS + LARGE_RUNS; run++) new SlowModelTest(run).goLarge();
-    System.out.println(calls + " calls beside the slow model, " + wrong + " answers are not as due");
-    if (wrong != 0) System.exit(1);
+    end();
   }
 
   private void go() {
-    int before = wrong;
-    int rounds = among(1, 6);
-    int length = CALLS / rounds;
-    int built = random.nextBoolean() ? length / 3 : among(8, 20);
-    for (int i = 0; i < CALLS && wrong < before + 5; i++) {
+    int rounds = among(1, 3);
+    int length = MOST_ANSWERS / rounds;
+    int begun = among(1, 4);
+    int built = random.nextBoolean() ? length / 2 : among(8, 20);
+    for (int i = 0; i < MOST_ANSWERS && goesOn(); i++) {
       int at = i % length;
       if (at == 0 && i > 0) empty();
-      else if (at < 4) due("set", sums.set(), model.set());
+      else if (at < begun) due("set", sums.set(), model.set());
       else if (at < built) addPoint();
       else one(random.nextInt(44));
     }
@@ -201,20 +194,5 @@ public final class SlowModelTest {
       case 41: if (random.nextInt(3) == 0) due("set", sums.set(), model.set()); break;
       default: if (random.nextInt(4) == 0) addPoint();
     }
-  }
-
-  private void due(String call, int got, int want, int... with) {
-    calls++;
-    if (got != want) say(call, with, "answered " + got + ", due is " + want);
-    if (sums.first() != model.first || sums.second() != model.second) {
-      say(call, with, "told " + sums.first() + ", " + sums.second()
-          + ", due is " + model.first + ", " + model.second);
-    }
-  }
-
-  private void say(String call, int[] with, String what) {
-    wrong++;
-    System.out.println("run " + run + ": " + call + java.util.Arrays.toString(with) + " " + what
-        + "; the sets: " + model.sets);
   }
 }
