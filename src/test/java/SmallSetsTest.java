@@ -1,4 +1,4 @@
-/** Every set of points of a square of 3 by 3, and every two of them, in the same place and moved. */
+/** Every set of points of a square of 3 by 3, and every two of them, the second one moved in one of three ways. */
 public final class SmallSetsTest extends Beside {
   private static final int SIDE = 3;
   private static final int CHOICES = 1 << SIDE * SIDE;
